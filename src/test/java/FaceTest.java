@@ -60,7 +60,10 @@ public final class FaceTest {
             int fields = 0;
             for (Field f : c.getDeclaredFields()) if (!Modifier.isStatic(f.getModifiers())) fields++;
             DUE.is("at most twenty fields in " + c, fields <= 20, true);
-            for (Method m : c.getDeclaredMethods()) DUE.is("at most seven for " + m, m.getParameterCount() <= 7, true);
+            for (Method m : c.getDeclaredMethods()) {
+                DUE.is("at most seven for " + m, m.getParameterCount() <= 7, true);
+                DUE.is("a name of the face inside: " + m, open.contains(m.getName()), false);
+            }
         }
     }
 

@@ -73,6 +73,7 @@ public final class TeaTest {
         DUE.is("no cup, no burn", x.guestIs(2, 4), 0);
         DUE.is("mother herself had none", x.guestIs(0, 4), 0);
         DUE.is("poured", x.guestIs(0, 5), 2);
+        DUE.is("burns of those that are tried alone", x.tried(3, 3), 6);
     }
 
     private static void spilling() {
@@ -275,7 +276,8 @@ public final class TeaTest {
         DUE.is("no mother: where", x.where(1), -3);
         x.mother(0);
         Due.law(x, "k2*b-2+c+l+a(g=0)");
-        DUE.is("k by mother", x.cup(2), 70);
+        DUE.is("likes nobody", x.likes(3, 2), 0);
+        DUE.is("k by mother; c, l, a are 0", x.cup(2), 70);
         DUE.is("mother's cup", x.cup(0), 50);
         DUE.is("mother herself", x.where(0), -2);
         DUE.is("1 behind 2 (9): 10, 11, 0, 1; the lowest", x.where(1), 0);

@@ -673,6 +673,7 @@ public final class TeaCabinet {
             int content = pourCups(table, cooling);
             table.x = (25173 * table.x + 13849) % 65536;
             if (table.x % 10 < tenths) {
+                // The TEA is over here: it is counted, but as nobody's POURED.
                 table.spilt++;
                 table.mother = table.nextLeft(pourer);
             } else {

@@ -300,6 +300,7 @@ public final class TeaCabinet {
 
     public int end(int n, int what) {
         if (!within(n, 1, MOST_TEAS) || !within(what, 0, 2)) return NONE;
+        if (table.mother == NONE) return NOBODY;
         trial.copyFrom(table);
         Arrays.fill(begun, 0);
         Arrays.fill(decided, 0);

@@ -424,6 +424,7 @@ final class PlainCabinet {
 
     int end(int n, int what) {
         if (n < 1 || n > 60 || what < 0 || what > 2) return -1;
+        if (s.mother < 0) return -2;
         State t = s.copy();
         int[] begun = new int[12], decides = new int[12];
         for (int i = 0; i < n; i++) {

@@ -29,9 +29,17 @@ public final class TeaTest {
         DUE.is("no mother: teas", x.teas(1), -2);
         DUE.is("no mother: tried", x.tried(60, 11), -2);
         DUE.is("no mother: who in the end", x.end(1, 0), -2);
-        DUE.is("no mother: how often", x.end(1, 1), 0);
-        DUE.is("no mother: decides", x.end(1, 2), 0);
+        DUE.is("no mother: how often", x.end(60, 1), -2);
+        DUE.is("no mother: decides", x.end(1, 2), -2);
         DUE.is("no mother: teas 0", x.teas(0), -1);
+        DUE.is("no mother: end of 0", x.end(0, 1), -1);
+        DUE.is("no mother: end of 61", x.end(61, 2), -1);
+        DUE.is("no mother: end what 3", x.end(1, 3), -1);
+        x.keep();
+        x.mother(0);
+        DUE.is("a mother: how often", x.end(1, 1), 1);
+        x.undo();
+        for (int what = 0; what < 3; what++) DUE.is("no mother again: end " + what, x.end(1, what), -2);
         x.mother(0);
         int[] wrong = {0, 61, -1, Integer.MIN_VALUE, Integer.MAX_VALUE};
         for (int n : wrong) {

@@ -81,6 +81,7 @@ public final class TeaEdgesTest {
         for (int what = 0; what < 4; what++) DUE.is("P10: " + what, x.tried(1, what), -2);
         DUE.is("P10: MANNERS", x.tried(60, 11), -2);
         DUE.is("P10: MANNERS of nobody", x.tried(60, 12), -1);
+        DUE.is("P10: no such what", x.tried(1, 4) == -1 && x.tried(1, 9) == -1 && x.tried(1, -1) == -1, true);
         DUE.is("P10: no such n", x.tried(61, 0), -1);
         DUE.is("P27: cup", x.cup(0), -3);
         DUE.is("P27: cup of nobody", x.cup(2), -1);
@@ -165,6 +166,8 @@ public final class TeaEdgesTest {
         DUE.is("P10: each burn counts", x.tried(60, 3), 60);
         x.teas(10);
         DUE.is("P10: burns in them, not ahead", x.tried(1, 3), 1);
+        x.guest(0, 0, 1, 0, 9);
+        DUE.is("P10: burns of each GUEST", x.tried(2, 3), 4);
         Due.law(x, "d10(1=1)");
         x.teas(4);
         DUE.is("P10: SPILT in them, not ahead", x.tried(2, 2), 2);
@@ -202,6 +205,9 @@ public final class TeaEdgesTest {
         Due.law(x, "e7(1=1);x(g=0)");
         DUE.is("P12: 0 if x", x.likes(0, 1), 0);
         DUE.is("P12: no x", x.likes(1, 0), 7);
+        Due.law(x, "x(g=0);e7(1=1);x(g=2)");
+        DUE.is("P12: an x ahead of e", x.likes(0, 1), 0);
+        DUE.is("P12: any x will do, none does", x.likes(1, 0), 7);
     }
 
     /** "(beyond its bounds the bound; none: 0)" of e (0 to 9999), k (0 to 20) and d (0 to 10). */

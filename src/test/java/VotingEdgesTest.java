@@ -243,6 +243,11 @@ public final class VotingEdgesTest {
         for (int place = 0; place < 5; place++) DUE.is("P16: " + place, x.runOff(place), due[place]);
         DUE.is("P16: b (8 + 7 against 9)", x.runOff(10), 1);
         DUE.is("P16: there is no fifth place", x.runOff(5), -1);
+        TeaCabinet rich = Due.voters(3, new int[] {20, 20, 20, 20, 20, 20, 20}, "a>b>c", "a>b>c", "a>b>c", "b>c>a", "b>c>a",
+            "c>b>a", "c>b>a");
+        DUE.is("P16: of b, c with 40 the last letter", rich.runOff(0), 2);
+        DUE.is("P16: 60 go out against 80", rich.runOff(1), 0);
+        DUE.is("P16: b", rich.runOff(10), 1);
     }
 
     /** "one BEATS another one by more of them": by one, not by as many. */
@@ -271,6 +276,10 @@ public final class VotingEdgesTest {
             TeaCabinet x = Due.voters(m, new int[] {1}, row(m, true));
             DUE.is("P18: just the last of " + m, x.set(), 1 << m - 1);
             DUE.is("P17: it is the best of " + m, x.best(), m - 1);
+            TeaCabinet turned = Due.voters(m, new int[] {1}, row(m, false));
+            DUE.is("P18: just the first of " + m, turned.set(), 1);
+            DUE.is("P17: it is the best of " + m, turned.best(), 0);
+            DUE.is("P20: it wins the paths of " + m, turned.pathWinners(), 1);
         }
         TeaCabinet ring = Due.voters(6, new int[] {1, 1, 1, 1, 1, 1}, "a>b>c>d>e>f", "b>c>d>e>f>a", "c>d>e>f>a>b", "d>e>f>a>b>c",
             "e>f>a>b>c>d", "f>a>b>c>d>e");
@@ -407,6 +416,9 @@ public final class VotingEdgesTest {
         x.guest(11, 11, 1, 1, 1);
         x.guest(0, 0, 1, 1, 1);
         DUE.is("P24: six of ten with 20", x.wonOver(1, 1), 126);
+        TeaCabinet own = Due.voters(3, new int[] {5, 3}, "c>b>a", "b>c>a");
+        DUE.is("P24: their own ones go to it: from c", own.wonOver(0, 1), 1);
+        DUE.is("P24: their own ones go to it: b, from c", own.wonOver(1, 1), 1);
     }
 
     /** "(M up to 5)", "-2 (of places): none; -3: M is 6; NONE: no such ones." */
@@ -446,6 +458,15 @@ public final class VotingEdgesTest {
         int[] row = {1, 0, 2, 3, 4};
         DUE.is("P25: 24 of 120", tie.lie(0, 10), 24);
         for (int place = 0; place < 5; place++) DUE.is("P25: the least of 24", tie.lie(0, place), row[place]);
+        TeaCabinet last = Due.voters(5, new int[] {5, 4, 6}, "d=e>c>b>a", "e>c>d>b>a", "c>d>e>a>b");
+        int[] withE = {4, 0, 1, 2, 3};
+        DUE.is("P25: c wins now", last.runOff(10), 2);
+        DUE.is("P25: each row with e at first helps, the last of all rows, too", last.lie(0, 10), 24);
+        for (int place = 0; place < 5; place++) DUE.is("P25: the least with e", last.lie(0, place), withE[place]);
+        TeaCabinet instead = Due.voters(3, new int[] {3, 2, 5}, "c>a>b", "c>a>b", "b>a>c");
+        DUE.is("P25: b wins now", instead.runOff(10), 1);
+        DUE.is("P25: in place of its own: c has 2 then and goes out", instead.lie(0, 10), 2);
+        for (int place = 0; place < 3; place++) DUE.is("P25: the least with a", instead.lie(0, place), place);
     }
 
     /** "(bits, 0 to 6 told ones)". */

@@ -15,6 +15,8 @@ public final class FaceTest {
         "teas i1", "tried i2", "guestIs i2", "likes i2", "pair i2", "firsts i1", "points i1", "runOff i1", "best i0", "set i0",
         "widest i2", "pathWinners i0", "agenda i1", "orders i2", "power i2", "wonOver i2", "lie i2", "sure i2", "cup i1",
         "where i1", "end i2", "left i2", "parted i1", "alike i1", "seed b1", "keep i0", "undo b0", "check i1", "count i1"};
+    private static final Set<String> LIBRARY = Set.of("Math.max", "Math.min", "Math.abs", "Math.floorMod", "Math.floorDiv",
+        "Integer.bitCount", "Long.bitCount", "Arrays.fill", "Arrays.copyOf", "Arrays.copyOfRange", "System.arraycopy");
     private static final Due DUE = new Due();
 
     public static void main(String[] args) throws Exception {
@@ -76,6 +78,8 @@ public final class FaceTest {
         DUE.is("no lambda", code.contains("->") || code.contains("::"), false);
         Matcher imports = Pattern.compile("import ([\\w.]+);").matcher(code);
         while (imports.find()) DUE.is("import " + imports.group(1), imports.group(1).equals("java.util.Arrays"), true);
+        Matcher library = Pattern.compile("\\b(Math|Integer|Long|Arrays|System|Character|String|List|Objects)\\.\\w+").matcher(code);
+        while (library.find()) DUE.is("of the library " + library.group(), LIBRARY.contains(library.group()), true);
         DUE.is("signs of 1 to 127", source.chars().allMatch(c -> c > 0 && c < 128), true);
         int from = 0;
         int line = 0;
